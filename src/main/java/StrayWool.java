@@ -131,9 +131,8 @@ public final class StrayWool {
     private int tapeLength;
     private final Reader reader = new Reader();
     private final Code question = new Code();
-    private final Formulas formulas = new Formulas(reader, question);
     private Upland spare = new Upland();
-    private final UplandText uplandText = new UplandText(reader, formulas, spare);
+    private final Parser parser = new Parser(reader, spare);
     private final Hill hill = new Hill();
     private final State state = new State();
     private final State ahead = new State();
@@ -173,7 +172,7 @@ public final class StrayWool {
 
     public int upland() {
         int length = takeTape();
-        if (!uplandText.read(tape, length, spare)) {
+        if (!parser.readUpland(tape, length, spare)) {
             return refuse(REFUSED_TEXT);
         }
         Upland former = hill.land;
@@ -332,8 +331,7 @@ public final class StrayWool {
         if (n < 1 || !canCome(n, MAX_RUMOUR_AHEAD) || what < 0 || what > 1) {
             return NONE;
         }
-        int gap = foresight.bestRumour(n);
-        return what == 0 ? gap : foresight.milesBehind(n, gap);
+        return foresight.bestRumour(n, what);
     }
 
     public int way(int from, int to) {
@@ -344,8 +342,7 @@ public final class StrayWool {
         if (!isSheep(sheep) || !canCome(n, MAX_AHEAD) || what < 0 || what > 1) {
             return NONE;
         }
-        int wait = foresight.bestWait(sheep, n);
-        return what == 0 ? wait : foresight.worthBehind(sheep, wait);
+        return foresight.bestWait(sheep, n, what);
     }
 
     public int coat(int n) {
@@ -482,7 +479,7 @@ public final class StrayWool {
 
     public long ask() {
         int length = takeTape();
-        int verb = formulas.readQuestion(tape, length, question);
+        int verb = parser.readQuestion(tape, length, question);
         return verb == NONE ? NOTHING : hill.answer(state, verb, question);
     }
 
@@ -791,10 +788,10 @@ public final class StrayWool {
         final int[] stack = new int[256];
         int top;
 
-        int run(Code code, int from, int to) {
+        int run(Upland land, int which) {
             int base = top;
-            for (int i = from; i < to && i < code.size; i++) {
-                step(code.codes[i]);
+            for (int i = land.codeFrom[which]; i < land.codeTo[which]; i++) {
+                step(land.code.codes[i]);
             }
             int answer = top > base ? stack[top - 1] : 0;
             top = base;
@@ -814,13 +811,13 @@ public final class StrayWool {
             int a = pop();
             switch (code) {
                 case O_PLUS:
-                    push(cut((long) a + b));
+                    push((long) a + b);
                     break;
                 case O_MINUS:
-                    push(cut((long) a - b));
+                    push((long) a - b);
                     break;
                 case O_TIMES:
-                    push(cut((long) a * b));
+                    push((long) a * b);
                     break;
                 case O_DIVIDED:
                     push(b == 0 ? 0 : Math.floorDiv(a, b));
@@ -844,9 +841,10 @@ public final class StrayWool {
             }
         }
 
-        void push(int value) {
+        /** Each value is cut here, since only sums, differences and products can be too great. */
+        void push(long value) {
             if (top < stack.length) {
-                stack[top] = value;
+                stack[top] = value > SUM_LIMIT ? SUM_LIMIT : value < -SUM_LIMIT ? -SUM_LIMIT : (int) value;
                 top++;
             }
         }
@@ -857,10 +855,6 @@ public final class StrayWool {
             }
             top--;
             return stack[top];
-        }
-
-        static int cut(long value) {
-            return value > SUM_LIMIT ? SUM_LIMIT : value < -SUM_LIMIT ? -SUM_LIMIT : (int) value;
         }
     }
 
@@ -887,10 +881,6 @@ public final class StrayWool {
             reckoner.values[V_SEEN] = state.times[s * MAX_FIELDS + field];
         }
 
-        int reckon(int which) {
-            return reckoner.run(land.code, land.codeFrom[which], land.codeTo[which]);
-        }
-
         boolean leads(State state, int s, int gap) {
             return (state.open >> gap & 1) == 1 && land.beyond(gap, state.field[s]) != NONE;
         }
@@ -900,7 +890,7 @@ public final class StrayWool {
             int field = state.field[s];
             setSheep(state, s);
             setField(state, s, field);
-            if (reckon(STAYS) != 0) {
+            if (reckoner.run(land, STAYS) != 0) {
                 return NONE;
             }
             int best = NONE;
@@ -927,7 +917,7 @@ public final class StrayWool {
         int pullBy(State state, int s, int gap, int beyond) {
             setField(state, s, beyond);
             reckoner.values[V_MILES] = land.gapMiles[gap];
-            return reckon(LURES);
+            return reckoner.run(land, LURES);
         }
 
         void passThrough(State state, int s, int gap) {
@@ -970,7 +960,7 @@ public final class StrayWool {
 
         int worthOf(State state, int s) {
             setSheep(state, s);
-            return Math.max(0, Math.min(MAX_WORTH, reckon(WORTH)));
+            return Math.max(0, Math.min(MAX_WORTH, reckoner.run(land, WORTH)));
         }
 
         long answer(State state, int verb, Code question) {
@@ -1095,29 +1085,24 @@ public final class StrayWool {
             return false;
         }
 
-        int bestRumour(int n) {
+        /** Of a RUMOUR: 0 the gap, 1 the miles. */
+        int bestRumour(int n, int what) {
             int best = NONE;
-            int most = milesBehind(n, NONE);
-            for (int k = 0; k < hill.land.gaps; k++) {
-                int miles = milesBehind(n, k);
+            int most = NONE;
+            for (int k = NONE; k < hill.land.gaps; k++) {
+                int miles = 0;
+                for (int s = 0; s < hill.land.sheep; s++) {
+                    ahead.copyOne(now, s);
+                    ahead.open = k == NONE ? now.open : now.open ^ 1 << k;
+                    hill.goOn(ahead, s, n);
+                    miles += ahead.miles[s];
+                }
                 if (miles > most) {
                     most = miles;
                     best = k;
                 }
             }
-            return best;
-        }
-
-        int milesBehind(int n, int changed) {
-            int bit = changed == NONE ? 0 : 1 << changed;
-            int miles = 0;
-            for (int s = 0; s < hill.land.sheep; s++) {
-                ahead.copyOne(now, s);
-                ahead.open = now.open ^ bit;
-                hill.goOn(ahead, s, n);
-                miles += ahead.miles[s];
-            }
-            return miles;
+            return what == 0 ? best : most;
         }
 
         int fewestMiles(int from, int to) {
@@ -1145,7 +1130,8 @@ public final class StrayWool {
             }
         }
 
-        int bestWait(int s, int n) {
+        /** To WAIT: 0 the days, 1 what it brings. */
+        int bestWait(int s, int n, int what) {
             ahead.copyOne(now, s);
             int best = 0;
             int most = hill.worthOf(ahead, s);
@@ -1157,12 +1143,7 @@ public final class StrayWool {
                     best = d;
                 }
             }
-            return best;
-        }
-
-        int worthBehind(int s, int n) {
-            look(s, n);
-            return hill.worthOf(ahead, s);
+            return what == 0 ? best : most;
         }
 
         int leastCoat(int n) {
@@ -1195,7 +1176,8 @@ public final class StrayWool {
         int leastWatch(int n) {
             int stood = 0;
             for (int s = 0; s < hill.land.sheep; s++) {
-                look(s, n);
+                ahead.copyOne(now, s);
+                hill.goOn(ahead, s, n);
                 stood |= 1 << ahead.field[s];
             }
             fillNear();
@@ -1305,7 +1287,8 @@ public final class StrayWool {
                 if (whose == s) {
                     bits &= curiousBy(n, crimp);
                 } else {
-                    look(whose, n);
+                    ahead.copyOne(now, whose);
+                    hill.goOn(ahead, whose, n);
                     bits = ahead.crimp[whose] == crimp ? bits : 0;
                 }
             }
@@ -1490,16 +1473,39 @@ public final class StrayWool {
         }
     }
 
-    /** Reads TESTS and SUMS into codes; open counts the marks that are open at once. */
-    private static final class Formulas {
+    /** Reads uplands and questions; their TESTS and SUMS become codes. */
+    private static final class Parser {
         final Reader reader;
-        /** Where the codes go, and what they are for: a formula of the upland, or a question. */
+        /** What an upland's statements are told to. */
+        Upland land;
+        /** Where codes go, and what they are for: a formula of the upland, or a question. */
         Code code;
         int use = QUESTION;
 
-        Formulas(Reader reader, Code code) {
+        Parser(Reader reader, Upland land) {
             this.reader = reader;
-            this.code = code;
+            this.land = land;
+            this.code = land.code;
+        }
+
+        /** False with a fault; then what the upland holds is of no use. */
+        boolean readUpland(byte[] text, int length, Upland into) {
+            land = into;
+            land.clear();
+            reader.open(text, length);
+            for (int n = 0; n <= MAX_STATEMENTS; n++) {
+                if (reader.kind == T_END) {
+                    land.statements = n;
+                    return true;
+                }
+                if (n == MAX_STATEMENTS) {
+                    return reader.fail(FAULT_MANY, reader.start);
+                }
+                if (!statement() || !reader.expect(';')) {
+                    return false;
+                }
+            }
+            return false;
         }
 
         /** The word with which a question begins; NONE with a fault. */
@@ -1518,7 +1524,170 @@ public final class StrayWool {
             return good && reader.expect(T_END) ? verb : NONE;
         }
 
-        boolean test(int open) {
+        private boolean statement() {
+            switch (reader.kind) {
+                case W_FIELD:
+                    return fieldStatement();
+                case W_GAP:
+                    return gapStatement();
+                case W_SHUT:
+                    return shutStatement();
+                case W_SHEEP:
+                    return sheepStatement();
+                case W_LURES:
+                    return beginFormula(LURES) && sum(0) && endFormula(LURES);
+                case W_STAYS:
+                    return beginFormula(STAYS) && test(0) && endFormula(STAYS);
+                case W_WORTH:
+                    return beginFormula(WORTH) && sum(0) && endFormula(WORTH);
+                case W_STORM:
+                    return stormStatement();
+                default:
+                    return reader.fail(FAULT_TEXT, reader.start);
+            }
+        }
+
+        private boolean fieldStatement() {
+            int f = land.fields;
+            if (f >= MAX_FIELDS) {
+                return reader.fail(FAULT_MANY, reader.start);
+            }
+            reader.advance();
+            int name = newName();
+            if (name == NONE || !reader.expect(W_LURE)) {
+                return false;
+            }
+            int lure = reader.takeNumber(0, MAX_DIGIT);
+            if (lure == NONE) {
+                return false;
+            }
+            land.fieldName[f] = name;
+            land.fieldLure[f] = lure;
+            land.fields++;
+            return true;
+        }
+
+        private boolean gapStatement() {
+            int k = land.gaps;
+            if (k >= MAX_GAPS) {
+                return reader.fail(FAULT_MANY, reader.start);
+            }
+            reader.advance();
+            int from = knownField(NONE);
+            if (from == NONE || !reader.expect(W_TO)) {
+                return false;
+            }
+            int to = knownField(from);
+            if (to == NONE || !reader.expect(W_MILES)) {
+                return false;
+            }
+            int miles = reader.takeNumber(1, MAX_DIGIT);
+            if (miles == NONE) {
+                return false;
+            }
+            land.gapFrom[k] = from;
+            land.gapTo[k] = to;
+            land.gapMiles[k] = miles;
+            land.openAtFirst |= 1 << k;
+            land.gaps++;
+            return true;
+        }
+
+        private boolean shutStatement() {
+            reader.advance();
+            int place = reader.start;
+            int k = reader.takeNumber(0, land.gaps - 1);
+            if (k == NONE) {
+                return false;
+            }
+            if ((land.openAtFirst >> k & 1) == 0) {
+                return reader.fail(FAULT_NUMBER, place);
+            }
+            land.openAtFirst ^= 1 << k;
+            return true;
+        }
+
+        private boolean sheepStatement() {
+            int s = land.sheep;
+            if (s >= MAX_SHEEP) {
+                return reader.fail(FAULT_MANY, reader.start);
+            }
+            reader.advance();
+            int name = newName();
+            if (name == NONE || !reader.expect(W_AT)) {
+                return false;
+            }
+            int home = knownField(NONE);
+            if (home == NONE || !reader.expect(W_CURIOUS)) {
+                return false;
+            }
+            int curious = reader.takeNumber(0, MAX_DIGIT);
+            if (curious == NONE) {
+                return false;
+            }
+            land.sheepName[s] = name;
+            land.sheepHome[s] = home;
+            land.sheepCurious[s] = curious;
+            land.sheep++;
+            return true;
+        }
+
+        private boolean beginFormula(int which) {
+            if ((land.told >> which & 1) == 1) {
+                return reader.fail(FAULT_MANY, reader.start);
+            }
+            land.told |= 1 << which;
+            reader.advance();
+            code = land.code;
+            use = which;
+            land.codeFrom[which] = code.size;
+            return true;
+        }
+
+        private boolean endFormula(int which) {
+            land.codeTo[which] = code.size;
+            return true;
+        }
+
+        private boolean stormStatement() {
+            reader.advance();
+            int storm = reader.takeNumber(0, MAX_STORM);
+            if (storm == NONE) {
+                return false;
+            }
+            land.storm = storm;
+            return true;
+        }
+
+        /** A name that nothing has yet; NONE with a fault. */
+        private int newName() {
+            int place = reader.start;
+            int name = reader.takeName();
+            if (name != NONE && (land.fieldNamed(name) != NONE || land.sheepNamed(name) != NONE)) {
+                reader.fail(FAULT_NAME, place);
+                return NONE;
+            }
+            return name;
+        }
+
+        /** The field of a name, unlike another one; NONE with a fault. */
+        private int knownField(int other) {
+            int place = reader.start;
+            int name = reader.takeName();
+            if (name == NONE) {
+                return NONE;
+            }
+            int field = land.fieldNamed(name);
+            if (field == NONE || field == other) {
+                reader.fail(FAULT_NAME, place);
+                return NONE;
+            }
+            return field;
+        }
+
+        // In what follows open counts the marks that are open at once.
+
+        private boolean test(int open) {
             for (int n = 0; n <= reader.length; n++) {
                 if (!both(open)) {
                     return false;
@@ -1534,7 +1703,7 @@ public final class StrayWool {
             return false;
         }
 
-        boolean both(int open) {
+        private boolean both(int open) {
             for (int n = 0; n <= reader.length; n++) {
                 if (!fact(open)) {
                     return false;
@@ -1550,7 +1719,7 @@ public final class StrayWool {
             return false;
         }
 
-        boolean fact(int open) {
+        private boolean fact(int open) {
             switch (reader.kind) {
                 case W_NOT:
                     if (!opens(open) || !fact(open + 1)) {
@@ -1581,7 +1750,7 @@ public final class StrayWool {
             }
         }
 
-        static int signCode(int kind) {
+        private static int signCode(int kind) {
             switch (kind) {
                 case '<':
                     return O_LESS;
@@ -1595,7 +1764,7 @@ public final class StrayWool {
         }
 
         /** Goes behind a mark, unless it is one too many. */
-        boolean opens(int open) {
+        private boolean opens(int open) {
             if (open >= MAX_OPEN_MARKS) {
                 return reader.fail(FAULT_DEEP, reader.start);
             }
@@ -1603,7 +1772,7 @@ public final class StrayWool {
             return true;
         }
 
-        boolean sum(int open) {
+        private boolean sum(int open) {
             int waiting = NONE;
             for (int n = 0; n <= reader.length; n++) {
                 if (!product(open)) {
@@ -1621,7 +1790,7 @@ public final class StrayWool {
             return false;
         }
 
-        boolean product(int open) {
+        private boolean product(int open) {
             int waiting = NONE;
             for (int n = 0; n <= reader.length; n++) {
                 if (!part(open)) {
@@ -1639,11 +1808,17 @@ public final class StrayWool {
             return false;
         }
 
-        boolean part(int open) {
+        private boolean part(int open) {
             int kind = reader.kind;
+            int value;
             switch (kind) {
                 case T_NUMBER:
-                    return numberPart();
+                    value = reader.takeNumber(0, MAX_NUMBER);
+                    if (value == NONE) {
+                        return false;
+                    }
+                    code.emit(value);
+                    return true;
                 case '(':
                     return opens(open) && sum(open + 1) && reader.expect(')');
                 case W_MIN:
@@ -1668,29 +1843,16 @@ public final class StrayWool {
                 code.emit(kind == W_SEEN ? O_SEEN_IN : O_LURES_BY);
                 return true;
             }
-            return variablePart();
-        }
-
-        boolean numberPart() {
-            int number = reader.takeNumber(0, MAX_NUMBER);
-            if (number == NONE) {
-                return false;
-            }
-            code.emit(number);
-            return true;
-        }
-
-        boolean variablePart() {
-            int variable = variableOf(reader.kind, use);
-            if (variable == NONE) {
+            value = variableOf(kind, use);
+            if (value == NONE) {
                 return reader.fail(FAULT_TEXT, reader.start);
             }
-            code.emit(VARIABLE + variable);
+            code.emit(VARIABLE + value);
             reader.advance();
             return true;
         }
 
-        static int variableOf(int kind, int use) {
+        private static int variableOf(int kind, int use) {
             switch (kind) {
                 case W_CURIOUS:
                     return V_CURIOUS;
@@ -1715,197 +1877,6 @@ public final class StrayWool {
                 default:
                     return NONE;
             }
-        }
-    }
-
-    /** Reads an upland, statement by statement. */
-    private static final class UplandText {
-        final Reader reader;
-        final Formulas formulas;
-        Upland land;
-
-        UplandText(Reader reader, Formulas formulas, Upland land) {
-            this.reader = reader;
-            this.formulas = formulas;
-            this.land = land;
-        }
-
-        /** False with a fault; then what the upland holds is of no use. */
-        boolean read(byte[] text, int length, Upland into) {
-            land = into;
-            land.clear();
-            reader.open(text, length);
-            for (int n = 0; n <= MAX_STATEMENTS; n++) {
-                if (reader.kind == T_END) {
-                    land.statements = n;
-                    return true;
-                }
-                if (n == MAX_STATEMENTS) {
-                    return reader.fail(FAULT_MANY, reader.start);
-                }
-                if (!statement() || !reader.expect(';')) {
-                    return false;
-                }
-            }
-            return false;
-        }
-
-        boolean statement() {
-            switch (reader.kind) {
-                case W_FIELD:
-                    return fieldStatement();
-                case W_GAP:
-                    return gapStatement();
-                case W_SHUT:
-                    return shutStatement();
-                case W_SHEEP:
-                    return sheepStatement();
-                case W_LURES:
-                    return formulaStatement(LURES);
-                case W_STAYS:
-                    return formulaStatement(STAYS);
-                case W_WORTH:
-                    return formulaStatement(WORTH);
-                case W_STORM:
-                    return stormStatement();
-                default:
-                    return reader.fail(FAULT_TEXT, reader.start);
-            }
-        }
-
-        boolean fieldStatement() {
-            int f = land.fields;
-            if (f >= MAX_FIELDS) {
-                return reader.fail(FAULT_MANY, reader.start);
-            }
-            reader.advance();
-            int name = newName();
-            if (name == NONE || !reader.expect(W_LURE)) {
-                return false;
-            }
-            int lure = reader.takeNumber(0, MAX_DIGIT);
-            if (lure == NONE) {
-                return false;
-            }
-            land.fieldName[f] = name;
-            land.fieldLure[f] = lure;
-            land.fields++;
-            return true;
-        }
-
-        boolean gapStatement() {
-            int k = land.gaps;
-            if (k >= MAX_GAPS) {
-                return reader.fail(FAULT_MANY, reader.start);
-            }
-            reader.advance();
-            int from = knownField(NONE);
-            if (from == NONE || !reader.expect(W_TO)) {
-                return false;
-            }
-            int to = knownField(from);
-            if (to == NONE || !reader.expect(W_MILES)) {
-                return false;
-            }
-            int miles = reader.takeNumber(1, MAX_DIGIT);
-            if (miles == NONE) {
-                return false;
-            }
-            land.gapFrom[k] = from;
-            land.gapTo[k] = to;
-            land.gapMiles[k] = miles;
-            land.openAtFirst |= 1 << k;
-            land.gaps++;
-            return true;
-        }
-
-        boolean shutStatement() {
-            reader.advance();
-            int place = reader.start;
-            int k = reader.takeNumber(0, land.gaps - 1);
-            if (k == NONE) {
-                return false;
-            }
-            if ((land.openAtFirst >> k & 1) == 0) {
-                return reader.fail(FAULT_NUMBER, place);
-            }
-            land.openAtFirst ^= 1 << k;
-            return true;
-        }
-
-        boolean sheepStatement() {
-            int s = land.sheep;
-            if (s >= MAX_SHEEP) {
-                return reader.fail(FAULT_MANY, reader.start);
-            }
-            reader.advance();
-            int name = newName();
-            if (name == NONE || !reader.expect(W_AT)) {
-                return false;
-            }
-            int home = knownField(NONE);
-            if (home == NONE || !reader.expect(W_CURIOUS)) {
-                return false;
-            }
-            int curious = reader.takeNumber(0, MAX_DIGIT);
-            if (curious == NONE) {
-                return false;
-            }
-            land.sheepName[s] = name;
-            land.sheepHome[s] = home;
-            land.sheepCurious[s] = curious;
-            land.sheep++;
-            return true;
-        }
-
-        boolean formulaStatement(int which) {
-            if ((land.told >> which & 1) == 1) {
-                return reader.fail(FAULT_MANY, reader.start);
-            }
-            land.told |= 1 << which;
-            reader.advance();
-            formulas.code = land.code;
-            formulas.use = which;
-            int from = land.code.size;
-            boolean good = which == STAYS ? formulas.test(0) : formulas.sum(0);
-            land.setFormula(which, from, land.code.size);
-            return good;
-        }
-
-        boolean stormStatement() {
-            reader.advance();
-            int storm = reader.takeNumber(0, MAX_STORM);
-            if (storm == NONE) {
-                return false;
-            }
-            land.storm = storm;
-            return true;
-        }
-
-        /** A name that nothing has yet; NONE with a fault. */
-        int newName() {
-            int place = reader.start;
-            int name = reader.takeName();
-            if (name != NONE && (land.fieldNamed(name) != NONE || land.sheepNamed(name) != NONE)) {
-                reader.fail(FAULT_NAME, place);
-                return NONE;
-            }
-            return name;
-        }
-
-        /** The field of a name, unlike another one; NONE with a fault. */
-        int knownField(int other) {
-            int place = reader.start;
-            int name = reader.takeName();
-            if (name == NONE) {
-                return NONE;
-            }
-            int field = land.fieldNamed(name);
-            if (field == NONE || field == other) {
-                reader.fail(FAULT_NAME, place);
-                return NONE;
-            }
-            return field;
         }
     }
 

@@ -84,9 +84,11 @@ final class Texts {
         return sum(use, open) + gap() + one("<", ">", "=") + gap() + sum(use, open);
     }
 
+    /** One that the tape can hold. */
     String question() {
-        return random.nextBoolean() ? one("first", "last", "often") + " " + test('q', 4)
+        String question = random.nextBoolean() ? one("first", "last", "often") + " " + test('q', 4)
                 : one("total", "most", "least") + " " + sum('q', 4);
+        return question.length() <= 1600 ? question : "total number";
     }
 
     /** At most so many fields, gaps and sheep. */
@@ -129,8 +131,45 @@ final class Texts {
         return text.append(gap()).toString();
     }
 
-    /** A text in which up to three places have been changed. */
+    /** A text in which a few places have been changed. */
     String spoiled(String text) {
+        return random.nextBoolean() ? spoiledAnywhere(text) : spoiledByTokens(text);
+    }
+
+    /** What stays is mostly whole words, so that the later faults have their turn. */
+    private String spoiledByTokens(String text) {
+        List<Grammar.Token> tokens = Grammar.tokens(text);
+        StringBuilder spoiled = new StringBuilder();
+        int left = 1 + random.nextInt(2);
+        for (Grammar.Token token : tokens) {
+            String t = token.text();
+            if (left > 0 && random.nextInt(tokens.size()) < 2) {
+                left--;
+                t = likeOf(t);
+            }
+            spoiled.append(t).append(" ");
+        }
+        return spoiled.toString();
+    }
+
+    private String likeOf(String token) {
+        if (token.matches("[0-9]+")) {
+            return one("0", "9", "10", "0009", "100", "101", "9999", "(((((( 1 ))))))", "((((((( 1 )))))))");
+        }
+        if (token.matches("s?[a-f]")) {
+            return one("a", "b", "sa", "sb", "zz", "first", "number", "curious", "abcdef", "abcdefg");
+        }
+        return switch (token) {
+            case ";" -> one("; lures 1 ;", "; stays all ;", "; worth 1 ;", "; shut 0 ;", "; storm 3 ;", "; ; ",
+                    "; field q lure 1 ; field r lure 1 ; field t lure 1 ; field u lure 1 ; field v lure 1 ;",
+                    "; stays not not not [[[ all ] ] ] ;", "; stays not not not [[[ not all ] ] ] ;",
+                    ";" + " storm 1 ;".repeat(56));
+            case "(", "[", "not", "seen", "lures" -> (token + " ").repeat(5);
+            default -> one(PIECES);
+        };
+    }
+
+    private String spoiledAnywhere(String text) {
         String spoiled = text;
         for (int n = random.nextInt(3); n >= 0; n--) {
             int from = random.nextInt(spoiled.length() + 1);
