@@ -133,6 +133,9 @@ public final class AheadTest {
         StrayWool above = Due.land(Lands.HILLS + "worth wool*4000;");
         Due.is("cut to 9999", above.waits(0, 60, 0), 1);
         Due.is("brings 9999", above.waits(0, 60, 1), 9999);
+        StrayWool led = Due.land(Lands.HILLS + "worth led*100+wool*day;");
+        led.lead(0, 0);
+        Due.is("led until then", led.waits(0, 2, 1), 100 + 2 * led.later(0, 2, 1));
         Due.is("61", x.waits(0, 61, 0), -1);
         Due.is("-1", x.waits(0, -1, 0), -1);
         Due.is("what 2", x.waits(0, 1, 2), -1);
@@ -166,6 +169,17 @@ public final class AheadTest {
         Due.is("61", x.watch(61), -1);
         Due.is("-1", x.watch(-1), -1);
         Due.is("no sheep", Due.land(Lands.FIELDS).watch(5), 0);
+        StrayWool star = Due.land("field a lure 0;field b lure 0;field c lure 9;field d lure 0;gap a to c miles 1;"
+                + "gap c to b miles 1;gap b to d miles 1;sheep s at a curious 0;sheep t at b curious 0;");
+        Due.is("one, though two have less bits", star.watch(0), 4);
+        Due.is("both in c", star.watch(1), 1);
+        star.swing(0, 0);
+        Due.is("then from two", star.watch(0), 3);
+        Due.is("where they will be", star.watch(1), 3);
+        star.swing(0, 1);
+        star.days(1);
+        star.swing(0, 0);
+        Due.is("where they are now", star.watch(0), 2);
     }
 
     private static void ways() {

@@ -98,6 +98,12 @@ public final class CuriousTest {
         tells(x, -1, -1, -1, -1);
         Due.is("what 3", x.tells(0, 3), -1);
         Due.is("what -1", x.tells(0, -1), -1);
+        StrayWool none = Due.land("field a lure 1;field b lure 1;gap a to b miles 1;sheep s at a curious 3;"
+                + "lures 1-curious;");
+        tells(none, 0, 1, 0, 9);
+        Due.feel(none, 1, 0, 1);
+        Due.is("0 alone", none.curious(0), 1);
+        tells(none, 0, 1, 0, 1);
         // Below the day's number one goes, so each day parts one number more from the rest.
         StrayWool steps = Due.land("field a lure 1;field b lure 0;gap a to b miles 1;sheep s at a curious 0;"
                 + "lures max(0,day-curious)*(lure-seen+1-lure);");

@@ -4,6 +4,7 @@ public final class QuestionTest {
         answers();
         withoutSheep();
         faults();
+        asLongAsTheTape();
         Due.close("QuestionTest");
     }
 
@@ -18,6 +19,8 @@ public final class QuestionTest {
         Object[][] due = {
             {"first all", 0}, {"last all", 1}, {"often all", 2}, {"first not all", -1}, {"last not all", -1},
             {"often not all", 0}, {"first number=1", 1}, {"last wool>0", 0}, {"often curious>1 and curious<3", 1},
+            {"often curious<3", 1}, {"often curious>3", 1}, {"often curious=6", 1}, {"often not curious<3", 1},
+            {"often not curious>3", 1}, {"often not curious=6", 1}, {"often curious<3 or curious>3", 2},
             {"first [led=1 or led=0] and at=2", 1}, {"total curious", 8}, {"most curious", 6}, {"least curious", 2},
             {"total at*10+number", 31}, {"most crimp", 1}, {"least 0-wool", -4}, {"most 0-3", -3}, {"total led", 1},
             {"total day+1", 2}, {"total seen 0", 1}, {"total seen 1", 1}, {"total seen 2", 1}, {"total seen 3", 0},
@@ -50,6 +53,19 @@ public final class QuestionTest {
         for (int i = 0; i < due.length; i++) {
             Due.is(questions[i], Due.ask(x, questions[i]), due[i]);
         }
+    }
+
+    private static void asLongAsTheTape() {
+        StrayWool x = hills();
+        String question = "total 10" + "+1".repeat(796);
+        Due.is("bytes", question.length(), 1600);
+        for (int n = 0; n < 5; n++) {
+            Due.is("a long question", Due.ask(x, question), 2 * 806);
+        }
+        String nested = "total " + "min(9,max(1,".repeat(3) + "1" + "*1".repeat(700) + "))".repeat(3);
+        Due.is("a deep one", Due.ask(x, nested), 2);
+        String marks = "often " + "not all and ".repeat(132) + "all";
+        Due.is("many facts", Due.ask(x, marks), 0);
     }
 
     private static void fault(String text, int kind, int place) {

@@ -25,6 +25,9 @@ public final class RandomRunsTest {
 
     private void run() {
         x = new StrayWool();
+        if (random.nextBoolean()) {
+            use();
+        }
         text = texts.upland(random.nextBoolean() ? 4 : 8, random.nextInt(4) == 0 ? 10 : 5, random.nextBoolean() ? 3 : 6);
         m = new Model(text);
         Due.is("upland() of " + text, Due.upland(x, text), m.statements);
@@ -38,6 +41,19 @@ public final class RandomRunsTest {
             }
             ask();
         }
+    }
+
+    /** What other uplands leave behind must not be seen in the next one. */
+    private void use() {
+        for (int n = 1 + random.nextInt(3); n > 0; n--) {
+            Due.upland(x, texts.upland(8, 10, 6));
+            x.chance(1 + random.nextInt(60));
+            x.lead(0, 0);
+            x.shear(1);
+            Due.feel(x, 1, 0, 1);
+            Due.ask(x, texts.question());
+        }
+        x.seed(1);
     }
 
     private void due(String call, long got, long want) {

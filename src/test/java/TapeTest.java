@@ -4,6 +4,7 @@ public final class TapeTest {
         feeding();
         ending();
         order();
+        bytesBehindTheEnd();
         statusCounts();
         Due.close("TapeTest");
     }
@@ -52,6 +53,20 @@ public final class TapeTest {
         x.end(15);
         Due.is("fie + ld a lure 7;", x.upland(), 1);
         Due.is("lure", x.lure(0), 7);
+    }
+
+    /** What end() takes from the tape is not read, though it would go on well. */
+    private static void bytesBehindTheEnd() {
+        String text = "field abc lure 15;";
+        int[][] due = {{3, 1, 0}, {5, 1, 5}, {8, 1, 8}, {9, 1, 9}, {13, 1, 10}, {14, 1, 14}, {16, 1, 16}, {17, 2, 15}};
+        for (int[] row : due) {
+            StrayWool x = new StrayWool();
+            Due.tape(x, Due.bytes(text));
+            x.end(row[0]);
+            Due.is("upland() of " + row[0], x.upland(), -1);
+            Due.is("fault(0) of " + row[0], x.fault(0), row[1]);
+            Due.is("fault(1) of " + row[0], x.fault(1), row[2]);
+        }
     }
 
     private static void statusCounts() {

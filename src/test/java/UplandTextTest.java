@@ -6,6 +6,8 @@ public final class UplandTextTest {
         newObject();
         whole();
         allStaysWithFault();
+        retold();
+        asLongAsTheTape();
         words();
         numbers();
         names();
@@ -76,6 +78,55 @@ public final class UplandTextTest {
         Due.is("field 1 is gone", x.lure(1), -1);
         Due.is("nothing is told", Due.upland(x, ""), 0);
         Due.is("field 0 is gone", x.lure(0), -1);
+    }
+
+    /** All is as at first, whatever was there. */
+    private static void retold() {
+        String rich = Lands.HILLS + "field d lure 1;gap d to a miles 9;shut 3;shut 1;storm 100;lures 7;stays wool>90;"
+                + "worth wool*9+1;sheep tup at d curious 9;";
+        String[] texts = {rich, Lands.HILLS, rich, Lands.HILLS, Lands.HILLS, FIELD, rich, rich};
+        StrayWool x = new StrayWool();
+        for (String text : texts) {
+            StrayWool fresh = Due.land(text);
+            Due.is("upland()", Due.upland(x, text), text.split(";").length);
+            Due.is("fault", Due.upland(x, "lures 1;stays all;storm 100;oops"), -1);
+            alike(x, fresh);
+            x.days(7);
+            fresh.days(7);
+            x.lead(0, 0);
+            fresh.lead(0, 0);
+            Due.is("shear", x.shear(0), fresh.shear(0));
+            x.seed(5);
+            fresh.seed(5);
+            Due.is("chance", x.chance(5), fresh.chance(5));
+            alike(x, fresh);
+            Due.ask(x, "total 1+1");
+        }
+    }
+
+    private static void alike(StrayWool x, StrayWool fresh) {
+        for (int what = 0; what < 10; what++) {
+            Due.is("has " + what, x.has(what), fresh.has(what));
+        }
+        byte[] got = Due.image(x);
+        byte[] want = Due.image(fresh);
+        Due.is("image", java.util.Arrays.equals(got, want), true);
+        for (int s = 0; s < 4; s++) {
+            Due.is("strays", x.strays(s), fresh.strays(s));
+            Due.is("brings", x.brings(s), fresh.brings(s));
+            Due.is("letter", x.letter(1, s, 0), fresh.letter(1, s, 0));
+            Due.is("kept", x.kept(s, 2), fresh.kept(s, 2));
+        }
+        Due.is("way", x.way(0, 1), fresh.way(0, 1));
+        Due.is("watch", x.watch(3), fresh.watch(3));
+    }
+
+    private static void asLongAsTheTape() {
+        String land = "field a lure 1;sheep s at a curious 0;";
+        String text = land + "worth 10" + "+1".repeat(776) + ";";
+        Due.is("bytes", text.length(), 1599);
+        StrayWool x = Due.land(text);
+        Due.is("all of it", x.brings(0), 786);
     }
 
     private static void words() {
