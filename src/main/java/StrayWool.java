@@ -862,8 +862,7 @@ public final class StrayWool {
     private static final class Hill {
         Upland land = new Upland();
         final Reckoner reckoner = new Reckoner();
-        /** A bit for each gap whose state mattered since this was set to 0. */
-        int looked;
+        final int[] pulls = new int[MAX_GAPS];
 
         void setSheep(State state, int s) {
             int[] values = reckoner.values;
@@ -887,26 +886,34 @@ public final class StrayWool {
 
         /** The gap through which a sheep strays in a day; NONE when it does not. */
         int choice(State state, int s) {
+            return mostLuring(luring(state, s, state.open, pulls, 0), pulls, 0);
+        }
+
+        /** Bits of those gaps at a sheep's field that lure it, 0 when it stays; by how much goes into a row. */
+        int luring(State state, int s, int gaps, int[] row, int from) {
             int field = state.field[s];
             setSheep(state, s);
             setField(state, s, field);
             if (reckoner.run(land, STAYS) != 0) {
-                return NONE;
+                return 0;
             }
-            int best = NONE;
-            int most = 0;
-            for (int k = 0; k < land.gaps; k++) {
+            int bits = 0;
+            for (int k = 0; k < land.gaps && from + k < row.length; k++) {
                 int beyond = land.beyond(k, field);
-                if (beyond == NONE) {
+                if (beyond == NONE || (gaps >> k & 1) == 0) {
                     continue;
                 }
-                looked |= 1 << k;
-                if ((state.open >> k & 1) == 0) {
-                    continue;
-                }
-                int pull = pullBy(state, s, k, beyond);
-                if (pull > most) {
-                    most = pull;
+                row[from + k] = pullBy(state, s, k, beyond);
+                bits |= row[from + k] > 0 ? 1 << k : 0;
+            }
+            return bits;
+        }
+
+        /** The first of those that lure most; NONE without any. */
+        int mostLuring(int bits, int[] row, int from) {
+            int best = NONE;
+            for (int k = 0; k < land.gaps && from + k < row.length; k++) {
+                if ((bits >> k & 1) == 1 && (best == NONE || row[from + k] > row[from + best])) {
                     best = k;
                 }
             }
@@ -950,7 +957,7 @@ public final class StrayWool {
         /** DAYS of one sheep alone. */
         void goOn(State state, int s, int n) {
             for (int d = 0; d < n; d++) {
-                int gap = choice(state, s);
+                int gap = mostLuring(luring(state, s, state.open, pulls, 0), pulls, 0);
                 if (gap != NONE) {
                     passThrough(state, s, gap);
                 }
@@ -1016,8 +1023,9 @@ public final class StrayWool {
         final State ahead;
         final int[] felt = new int[MAX_FELT * FELT_PARTS];
         int feltRows;
-        /** By bits of changed gaps: those that mattered on the way. */
-        final int[] lookedAt = new int[1 << MAX_GAPS];
+        /** The best changes found so far, and how much each gap lures, by the days left. */
+        int fewest;
+        final int[] pulls = new int[(MAX_GAPS_AHEAD + 1) * MAX_GAPS];
         /** Of one sheep: by how curious it is, by days ahead. */
         final int[] crimps = new int[CURIOSITIES * (MAX_FELT_AHEAD + 1)];
         final int[] distance = new int[MAX_FIELDS];
@@ -1054,35 +1062,70 @@ public final class StrayWool {
         }
 
         int fewestChanges(int s, int field, int n) {
-            int gaps = hill.land.gaps;
-            for (int changes = 0; changes <= gaps; changes++) {
-                for (int bits = 0; bits < 1 << gaps; bits++) {
-                    if (Integer.bitCount(bits) != changes || goesAsWithFewer(bits, gaps)) {
-                        continue;
-                    }
-                    ahead.copyOne(now, s);
-                    ahead.open = now.open ^ bits;
-                    hill.looked = 0;
-                    hill.goOn(ahead, s, n);
-                    lookedAt[bits] = hill.looked;
-                    if (ahead.field[s] == field) {
-                        return bits;
-                    }
-                }
-            }
-            return NONE;
+            ahead.copyOne(now, s);
+            fewest = NONE;
+            tryDays(s, field, n, 0, 0);
+            return fewest;
         }
 
-        /** A change of a gap that never mattered ends where the others alone do, which were tried ahead. */
-        boolean goesAsWithFewer(int bits, int gaps) {
-            for (int k = 0; k < gaps; k++) {
-                int fewer = bits & ~(1 << k);
-                if (fewer != bits && (lookedAt[fewer] >> k & 1) == 0) {
-                    lookedAt[bits] = lookedAt[fewer];
-                    return true;
-                }
+        /**
+         * Tries the days left, from the state ahead on. Whether a gap is open is decided when it first matters, both
+         * ways one after the other, so that gaps which never matter cost nothing; changed are those that are decided
+         * otherwise than they are now.
+         */
+        private void tryDays(int s, int field, int left, int decided, int changed) {
+            if (!isFewer(changed)) {
+                return;
             }
-            return false;
+            if (left <= 0) {
+                fewest = ahead.field[s] == field ? changed : fewest;
+                return;
+            }
+            int row = left * MAX_GAPS;
+            int shut = decided & ~(now.open ^ changed);
+            int rest = hill.luring(ahead, s, ~shut, pulls, row);
+            int known = decided;
+            int bits = changed;
+            for (int k = 0; k < MAX_GAPS && rest != 0; k++) {
+                int gap = hill.mostLuring(rest, pulls, row);
+                int bit = 1 << gap;
+                tryThrough(s, field, left, gap, known | bit, bits | bit & ~now.open);
+                if ((known & bit) != 0) {
+                    return;
+                }
+                rest &= ~bit;
+                known |= bit;
+                bits |= bit & now.open;
+            }
+            ahead.day++;
+            tryDays(s, field, left - 1, known, bits);
+            ahead.day--;
+        }
+
+        private void tryThrough(int s, int field, int left, int gap, int decided, int changed) {
+            int from = ahead.field[s];
+            int beyond = hill.land.beyond(gap, from);
+            if (beyond == NONE) {
+                return;
+            }
+            int place = s * MAX_FIELDS + beyond;
+            int times = ahead.times[place];
+            int miles = ahead.miles[s];
+            int crimp = ahead.crimp[s];
+            hill.passThrough(ahead, s, gap);
+            ahead.day++;
+            tryDays(s, field, left - 1, decided, changed);
+            ahead.day--;
+            ahead.field[s] = from;
+            ahead.times[place] = times;
+            ahead.miles[s] = miles;
+            ahead.crimp[s] = crimp;
+        }
+
+        /** Changes only become more while days are tried, so what is not fewer here won't be later. */
+        boolean isFewer(int changed) {
+            int more = fewest == NONE ? -1 : Integer.bitCount(changed) - Integer.bitCount(fewest);
+            return more < 0 || more == 0 && changed < fewest;
         }
 
         /** Of a RUMOUR: 0 the gap, 1 the miles. */

@@ -40,6 +40,10 @@ public final class QuestionTest {
         Due.is("lures are reckoned though one stays", Due.ask(stays, "total lures 2"), 600 + 20 + 0 - 3 + 200 + 20 - 5);
         StrayWool below = Due.land(Lands.HILLS + "lures 0-curious;");
         Due.is("lures below 0", Due.ask(below, "least lures 2"), -6);
+        StrayWool eight = Due.land("field a lure 1;field b lure 1;field c lure 1;field d lure 1;field e lure 1;"
+                + "field f lure 1;field g lure 1;field h lure 1;sheep s at h curious 1;sheep t at a curious 1;");
+        Due.is("seen in the last field", Due.ask(eight, "total seen 7"), 1);
+        Due.is("seen behind the last field", Due.ask(eight, "total seen 8"), 0);
         StrayWool x = hills();
         x.feed(0x616c6c20, 0, 0, 0, 0);
         Due.ask(x, "often all");
