@@ -133,6 +133,10 @@ public final class AheadTest {
         StrayWool above = Due.land(Lands.HILLS + "worth wool*4000;");
         Due.is("cut to 9999", above.waits(0, 60, 0), 1);
         Due.is("brings 9999", above.waits(0, 60, 1), 9999);
+        StrayWool bare = Due.land(Lands.HILLS + "worth 5;");
+        Due.is("wool of 0 miles", bare.waits(0, 3, 0), 0);
+        Due.is("brings", bare.waits(0, 3, 1), 5);
+        Due.is("brings now", bare.brings(0), 5);
         StrayWool led = Due.land(Lands.HILLS + "worth led*100+wool*day;");
         led.lead(0, 0);
         Due.is("led until then", led.waits(0, 2, 1), 100 + 2 * led.later(0, 2, 1));
@@ -235,6 +239,7 @@ public final class AheadTest {
         Due.is("later 0 at 999", at(999).later(0, 0, 0), 0);
         Due.is("later 1 at 999", at(999).later(0, 1, 0), -1);
         Due.is("home at 999", at(999).home(0), -1);
+        Due.is("strays at 999, as if a day came", at(999).strays(0), 0);
         Due.is("gaps 0 at 999", at(999).gaps(0, 0, 0), 0);
         Due.is("rumour 1 at 999", at(999).rumour(1, 0), -1);
         Due.is("rumour's miles at 999", at(999).rumour(1, 1), -1);
