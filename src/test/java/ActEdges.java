@@ -21,7 +21,8 @@ final class ActEdges {
     }
 
     private static void shear() {
-        Edge e = Edge.of(27, "A SHEEP is SHORN: what it brings; NONE, refused (2), when its WOOL has 0 miles, or there is none such.");
+        Edge e = Edge.of(27, "A SHEEP is SHORN: what it brings; NONE, refused (2), when its WOOL has 0 miles, or"
+                + " there is none such.");
         int[] miles = {0, 1, 2, 998, 999};
         for (int m : miles) {
             StrayWool x = Due.land(LandEdges.full() + "worth wool+1;");
@@ -50,7 +51,8 @@ final class ActEdges {
     }
 
     private static void lead() {
-        Edge e = Edge.of(28, "A SHEEP is LED through a GAP: true; false, refused (2), when that does not lead from its FIELD, or there are none such.");
+        Edge e = Edge.of(28, "A SHEEP is LED through a GAP: true; false, refused (2), when that does not lead from"
+                + " its FIELD, or there are none such.");
         StrayWool x = Due.land(LandEdges.full() + "shut 9;");
         e.is("gap 1 is not at fa", x.lead(0, 1), false);
         e.is("gap 9 is shut", x.lead(2, 9), false);
@@ -72,7 +74,8 @@ final class ActEdges {
     }
 
     private static void swing() {
-        Edge e = Edge.of(29, "A GAP is opened (on 1), or shut (0): true; false, refused (2), when it is so already, there is none such, or for others.");
+        Edge e = Edge.of(29, "A GAP is opened (on 1), or shut (0): true; false, refused (2), when it is so already,"
+                + " there is none such, or for others.");
         StrayWool x = Due.land(LandEdges.full());
         for (int k : new int[] {0, 9}) {
             e.is("opened already " + k, x.swing(k, 1), false);
@@ -95,7 +98,8 @@ final class ActEdges {
     }
 
     private static void tell() {
-        Edge e = Edge.of(30, "A SHEEP is told of a FIELD, as if it had been there so many times (0 .. 99): true; false, refused (2), when it has, there are none such, or for others.");
+        Edge e = Edge.of(30, "A SHEEP is told of a FIELD, as if it had been there so many times (0 .. 99): true;"
+                + " false, refused (2), when it has, there are none such, or for others.");
         StrayWool x = Due.land(LandEdges.full());
         for (int times : new int[] {1, 98, 99, 0}) {
             e.is("told " + times, x.tell(5, 7, times), true);
@@ -118,7 +122,8 @@ final class ActEdges {
     }
 
     private static void days() {
-        Edge e = Edge.of(31, "n DAYS (1 .. 100): how many times one STRAYS; NONE, refused (3), when it can't be (beyond DAY 999).");
+        Edge e = Edge.of(31, "n DAYS (1 .. 100): how many times one STRAYS; NONE, refused (3), when it can't be"
+                + " (beyond DAY 999).");
         for (int n : new int[] {Integer.MIN_VALUE, -1, 0, 1, 2, 99, 100, 101, Integer.MAX_VALUE}) {
             StrayWool x = Due.land(AheadEdges.SHUTTLE + "sheep t at b curious 0;stays wool>97 and curious=0;");
             boolean due = n >= 1 && n <= 100;
@@ -141,7 +146,8 @@ final class ActEdges {
     }
 
     private static void chance() {
-        Edge e = Edge.of(32, "n DAYS by the seed (1 .. 100), one ACT: how many storms; NONE, refused (3), when it can't be.");
+        Edge e = Edge.of(32, "n DAYS by the seed (1 .. 100), one ACT: how many storms; NONE, refused (3), when it"
+                + " can't be.");
         for (int n : new int[] {Integer.MIN_VALUE, -1, 0, 1, 2, 99, 100, 101, Integer.MAX_VALUE}) {
             StrayWool x = Due.land(AheadEdges.SHUTTLE + "storm 100;");
             boolean due = n >= 1 && n <= 100;

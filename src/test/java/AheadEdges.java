@@ -17,6 +17,7 @@ final class AheadEdges {
         homeLate();
         gaps();
         gapsChosen();
+        gapsTried();
         rumour();
         rumourChosen();
         way();
@@ -61,7 +62,8 @@ final class AheadEdges {
     }
 
     private static void later() {
-        Edge e = Edge.of(15, "Of a SHEEP behind n DAYS AHEAD (0 .. 60): 0 its FIELD, 1 miles, 2 CRIMP. NONE when there is none such, n can't be, or for others.");
+        Edge e = Edge.of(15, "Of a SHEEP behind n DAYS AHEAD (0 .. 60): 0 its FIELD, 1 miles, 2 CRIMP. NONE when"
+                + " there is none such, n can't be, or for others.");
         limits(e, "later", (x, n) -> x.later(0, n, 0), 0, 60);
         StrayWool x = Due.land(SHUTTLE + "sheep t at b curious 0;");
         int crimp = 0;
@@ -83,7 +85,8 @@ final class AheadEdges {
     }
 
     private static void home() {
-        Edge e = Edge.of(16, "Behind how many DAYS AHEAD (1 .. 60) a SHEEP is in its HOME first; NONE when it is not, or there is none such.");
+        Edge e = Edge.of(16, "Behind how many DAYS AHEAD (1 .. 60) a SHEEP is in its HOME first; NONE when it is not,"
+                + " or there is none such.");
         e.is("one that never strays", Due.land("field a lure 1;sheep s at a curious 0;").home(0), 1);
         e.is("one that strays to and fro", Due.land(SHUTTLE).home(0), 2);
         e.is("behind 59", Due.land(backOnDay(58)).home(0), 59);
@@ -120,7 +123,8 @@ final class AheadEdges {
     }
 
     private static void gaps() {
-        Edge e = Edge.of(17, "GAPS for a SHEEP, a FIELD, n DAYS AHEAD (0 .. 20), as bits; NONE without, when there are none such, or n can't be.");
+        Edge e = Edge.of(17, "GAPS for a SHEEP, a FIELD, n DAYS AHEAD (0 .. 20), as bits; NONE without, when there"
+                + " are none such, or n can't be.");
         limits(e, "gaps", (x, n) -> x.gaps(0, (n & 1) == 1 ? 1 : 0, n), 0, 20);
         StrayWool x = Due.land(SHUTTLE + "field c lure 1;sheep t at b curious 0;");
         e.is("where it is, behind no day", x.gaps(0, 0, 0), 0);
@@ -140,7 +144,8 @@ final class AheadEdges {
     }
 
     private static void gapsChosen() {
-        Edge e = Edge.of(17, "GAPS for a SHEEP, a FIELD are the fewest, changed now (opened, shut), so that it is there behind n DAYS; of like ones the least bits.");
+        Edge e = Edge.of(17, "GAPS for a SHEEP, a FIELD are the fewest, changed now (opened, shut), so that it is"
+                + " there behind n DAYS; of like ones the least bits.");
         String fields = "field a lure 1;field b lure 5;field c lure 3;";
         StrayWool fewest = Due.land(fields + "gap a to b miles 1;gap b to a miles 1;gap a to c miles 1;gap c to a miles 9;shut 3;"
                 + "sheep s at a curious 0;lures lure+miles;");
@@ -167,8 +172,46 @@ final class AheadEdges {
         e.is("behind three days back", on.gaps(0, 1, 3), 1);
     }
 
+    /** By all changes of the gaps one after another, each looked at with later(). */
+    private static void gapsTried() {
+        Edge e = Edge.of(17, "GAPS for a SHEEP, a FIELD are the fewest, changed now (opened, shut), so that it is"
+                + " there behind n DAYS");
+        String[] lands = {SHUTTLE, SHUTTLE + "stays day=1;", SHUTTLE + "gap b to a miles 5;stays day>3;", Lands.HILLS, Lands.HILLS + "shut 0;shut 2;",
+            Lands.HILLS + "lures lure+curious-seen*2-day;stays day=1 or wool>20;", Lands.HILLS + "gap b to c miles 9;shut 3;lures 40-wool+miles-seen*3;",
+            Lands.HILLS + "gap a to b miles 1;lures lure*(day+1)-seen*miles;stays wool*3>day*20;"};
+        for (String land : lands) {
+            StrayWool x = Due.land(land);
+            StrayWool[] changed = new StrayWool[1 << x.has(1)];
+            for (int bits = 0; bits < changed.length; bits++) {
+                changed[bits] = Due.land(land);
+                for (int k = 0; k < x.has(1); k++) {
+                    if ((bits >> k & 1) == 1) {
+                        changed[bits].swing(k, 1 - x.gap(k, 3));
+                    }
+                }
+            }
+            for (int n : new int[] {0, 1, 2, 3, 4, 5, 8, 13, 19, 20}) {
+                for (int f = 0; f < x.has(0); f++) {
+                    e.is("field " + f + " behind " + n + " of " + land, x.gaps(0, f, n), fewest(changed, f, n));
+                }
+            }
+        }
+    }
+
+    private static int fewest(StrayWool[] changed, int field, int n) {
+        int best = -1;
+        for (int bits = 0; bits < changed.length; bits++) {
+            boolean fewer = best < 0 || Integer.bitCount(bits) < Integer.bitCount(best);
+            if (fewer && changed[bits].later(0, n, 0) == field) {
+                best = bits;
+            }
+        }
+        return best;
+    }
+
     private static void rumour() {
-        Edge e = Edge.of(18, "A RUMOUR, n DAYS AHEAD (1 .. 40): the GAP (what 0; NONE for none), the miles of all then (1). NONE when n can't be, or for others.");
+        Edge e = Edge.of(18, "A RUMOUR, n DAYS AHEAD (1 .. 40): the GAP (what 0; NONE for none), the miles of all"
+                + " then (1). NONE when n can't be, or for others.");
         limits(e, "rumour", (x, n) -> x.rumour(n, 1), 1, 40);
         StrayWool x = Due.land(SHUTTLE + "gap b to a miles 9;shut 1;stays day=40;");
         e.are("none", new int[] {x.rumour(1, -1), x.rumour(1, 0), x.rumour(1, 1), x.rumour(1, 2)}, -1, -1, 1, -1);
@@ -183,7 +226,8 @@ final class AheadEdges {
     }
 
     private static void rumourChosen() {
-        Edge e = Edge.of(18, "A RUMOUR is the one GAP which, changed now, or none, lets all SHEEP together have most miles in their WOOL behind n DAYS;"
+        Edge e = Edge.of(18, "A RUMOUR is the one GAP which, changed now, or none, lets all SHEEP together have most"
+                + " miles in their WOOL behind n DAYS;"
                 + " of like ones none, then the first.");
         String fields = "field a lure 1;field b lure 1;";
         String tail = "sheep s at a curious 0;sheep t at b curious 0;lures miles;";
@@ -207,7 +251,8 @@ final class AheadEdges {
     }
 
     private static void way() {
-        Edge e = Edge.of(19, "The WAY between two FIELDS (itself: 0): its miles; NONE without one, or when there are none such.");
+        Edge e = Edge.of(19, "The WAY between two FIELDS (itself: 0): its miles; NONE without one, or when there are"
+                + " none such.");
         StrayWool x = Due.land(TextEdges.fields(8) + "gap a to b miles 1;gap h to g miles 9;");
         for (int f = 0; f < 8; f++) {
             e.is("itself " + f, x.way(f, f), 0);
@@ -249,7 +294,8 @@ final class AheadEdges {
     }
 
     private static void ways() {
-        Edge e = Edge.of(23, "How many WAYS to a CRIMP (0 .. 63) there are from a FIELD through n GAPS (0 .. 12) that are OPEN now; NOTHING when there are none such, or n can't be.");
+        Edge e = Edge.of(23, "How many WAYS to a CRIMP (0 .. 63) there are from a FIELD through n GAPS (0 .. 12) that"
+                + " are OPEN now; NOTHING when there are none such, or n can't be.");
         int crimp = 0;
         for (int n = 0; n <= 12; n++) {
             StrayWool one = Due.land(SHUTTLE);
@@ -278,7 +324,8 @@ final class AheadEdges {
     }
 
     private static void waysCounted() {
-        Edge e = Edge.of(23, "WAYS to a CRIMP are rows of n GAPS (0 .. 12) through which one goes from a FIELD, each of them leading on from where one is,"
+        Edge e = Edge.of(23, "WAYS to a CRIMP are rows of n GAPS (0 .. 12) through which one goes from a FIELD, each"
+                + " of them leading on from where one is,"
                 + " by which a CRIMP that is 0 ahead becomes as told.");
         String tenGaps = "field a lure 1;field b lure 1;" + "gap a to b miles 1;".repeat(10);
         long power = 1;

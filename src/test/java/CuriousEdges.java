@@ -40,11 +40,15 @@ final class CuriousEdges {
         StrayWool six = Due.land(LandEdges.full());
         e.is("sheep 5", Due.feel(six, 1, 5, 1), 1);
         e.is("sheep 6", Due.feel(six, 1, 6, 1), -1);
+        StrayWool one = Due.land(AheadEdges.SHUTTLE);
+        e.is("sheep 0 of one", Due.feel(one, 1, 0, 1), 1);
+        e.is("sheep 1 of one", Due.feel(one, 1, 1, 1), -1);
         e.is("without sheep", Due.feel(new StrayWool(), 0, 0, 0), -1);
     }
 
     private static void feelRows() {
-        Edge e = Edge.of(24, "The tape (it goes) tells what is FELT, 1 to 16 rows of three bytes: how many rows; NONE, refused (1), all staying, when it is none such.");
+        Edge e = Edge.of(24, "The tape (it goes) tells what is FELT, 1 to 16 rows of three bytes: how many rows;"
+                + " NONE, refused (1), all staying, when it is none such.");
         for (int bytes = 0; bytes <= 52; bytes++) {
             StrayWool x = Due.land(ONCE);
             boolean due = bytes > 0 && bytes <= 48 && bytes % 3 == 0;
@@ -69,10 +73,22 @@ final class CuriousEdges {
         e.is("what they tell stays", x.curious(0), ALL & ~31);
         e.is("a new row takes their place", Due.feel(x, 1, 0, 0), 1);
         e.is("what it tells", x.curious(0), 31);
+        Due.feel(x, 1, 0, 0, 1, 0, 1);
+        e.is("two that don't agree", x.curious(0), 0);
+        Due.feel(x, 1, 0, 0);
+        e.is("the first of them alone", x.curious(0), 31);
+        int[] rows = new int[48];
+        rows[45] = 1;
+        rows[47] = 1;
+        Due.feel(x, rows);
+        e.is("the 16th row counts", x.curious(0), ALL & ~31);
+        Due.upland(x, above(4, 0));
+        e.is("none is left of them", x.curious(0), ALL);
     }
 
     private static void curious() {
-        Edge e = Edge.of(25, "CURIOUS of a SHEEP by what is FELT (all, if nothing is; DAYS beyond 999 are by none), as bits. NONE when there is none such.");
+        Edge e = Edge.of(25, "CURIOUS of a SHEEP by what is FELT (all, if nothing is; DAYS beyond 999 are by none),"
+                + " as bits. NONE when there is none such.");
         StrayWool x = Due.land(above(4, 0));
         e.is("nothing felt", x.curious(0), ALL);
         e.is("sheep 2", x.curious(2), -1);
@@ -97,6 +113,14 @@ final class CuriousEdges {
             Due.feel(y, 1, 0, 1, 1, 1, number < 2 ? 0 : 1);
             numbers.is("what the other one has is not so", y.curious(0), 0);
         }
+        StrayWool least = Due.land(ONCE + "lures max(0,5-curious)*(1-seen);");
+        Due.feel(least, 1, 0, 1);
+        numbers.is("those below 5", least.curious(0), 31);
+        least.lead(0, 0);
+        Due.feel(least, 0, 0, 1);
+        numbers.is("the crimp that it has now", least.curious(0), ALL);
+        Due.feel(least, 0, 0, 0);
+        numbers.is("one that it had", least.curious(0), 0);
         StrayWool late = Due.land(above(4, 29));
         Due.feel(late, 30, 0, 1);
         numbers.is("behind 30 days", late.curious(0), ALL & ~31);
@@ -127,7 +151,8 @@ final class CuriousEdges {
     }
 
     private static void tells() {
-        Edge e = Edge.of(26, "TELLING is the number of DAYS AHEAD (1 .. 30), the SHEEP, by whose CRIMP then, whatever it is, the most of these left are fewest; of like ones the first, DAY by DAY, SHEEP by SHEEP.");
+        Edge e = Edge.of(26, "TELLING is the number of DAYS AHEAD (1 .. 30), the SHEEP, by whose CRIMP then, whatever"
+                + " it is, the most of these left are fewest; of like ones the first, DAY by DAY, SHEEP by SHEEP.");
         for (int number = 0; number <= 9; number++) {
             // Those above are 9 - number, the others one more than number.
             int left = Math.max(9 - number, number + 1);
@@ -147,13 +172,17 @@ final class CuriousEdges {
         StrayWool one = Due.land(above(8, 0));
         Due.feel(one, 1, 0, 1);
         tells(e, "one left", one, 0, 1, 0, 1);
+        StrayWool nought = Due.land(above(0, 0));
+        Due.feel(nought, 1, 0, 0);
+        tells(e, "0 alone is left", nought, 0, 1, 0, 1);
         StrayWool later = Due.land(ONCE + "lures max(0,curious-day*3)*(1-seen);");
         // On day 0 all but 0 stray; who strayed is in b, and b has been seen: none strays again.
         tells(e, "the first of like ones", later, 0, 1, 0, 9);
     }
 
     private static void tellsWhen() {
-        Edge e = Edge.of(26, "TELLING for a SHEEP: the number of DAYS AHEAD (what 0), the SHEEP (1), how many are left at the most (2).");
+        Edge e = Edge.of(26, "TELLING for a SHEEP: the number of DAYS AHEAD (what 0), the SHEEP (1), how many are"
+                + " left at the most (2).");
         StrayWool x = Due.land(above(4, 0));
         e.are("what", new int[] {x.tells(1, -1), x.tells(1, 0), x.tells(1, 1), x.tells(1, 2), x.tells(1, 3)}, -1, 1, 1, 5, -1);
         for (int day = 967; day <= 999; day++) {

@@ -32,7 +32,8 @@ final class DayEdges {
     }
 
     private static void atFirst() {
-        Edge e = Edge.of(10, "At first it is DAY 0; each SHEEP is in its HOME, where it has been once, its WOOL has 0 miles, its CRIMP is 0,"
+        Edge e = Edge.of(10, "At first it is DAY 0; each SHEEP is in its HOME, where it has been once, its WOOL has 0"
+                + " miles, its CRIMP is 0,"
                 + " it is not LED; nothing is in the purse.");
         StrayWool x = Due.land(LandEdges.full());
         e.is("day", x.has(3), 0);
@@ -62,8 +63,10 @@ final class DayEdges {
     }
 
     private static void mostAboveNothing() {
-        Edge e = Edge.of(31, "A DAY: SHEEP by SHEEP, for which the TEST of stays does not hold: of the GAPS that lead from its FIELD,"
-                + " the one by which the SUM of lures is most, if that is above 0, of like ones the first: it STRAYS through it.");
+        Edge e = Edge.of(31, "A DAY: SHEEP by SHEEP, for which the TEST of stays does not hold: of the GAPS that lead"
+                + " from its FIELD,"
+                + " the one by which the SUM of lures is most, if that is above 0, of like ones the first: it STRAYS"
+                + " through it.");
         int[] want = {0, 0, 1, 1};
         for (int lured = -1; lured <= 2; lured++) {
             StrayWool x = pair("lures 5-6+" + (lured + 1) + ";");
@@ -97,7 +100,8 @@ final class DayEdges {
     }
 
     private static void beenOnceMore() {
-        Edge e = Edge.of(11, "To STRAY through GAP k: it is in the FIELD beyond, where it has been once more (99 at most)");
+        Edge e = Edge.of(11, "To STRAY through GAP k: it is in the FIELD beyond, where it has been once more (99 at"
+                + " most)");
         int[][] rows = {{0, 1}, {1, 2}, {97, 98}, {98, 99}, {99, 99}};
         for (int[] row : rows) {
             StrayWool x = pair("lures 1;");
@@ -163,7 +167,8 @@ final class DayEdges {
     }
 
     private static void shorn() {
-        Edge e = Edge.of(27, "To SHEAR a SHEEP: the SUM of worth, 0 .. 9999 (below is 0, above 9999), is more in the purse (99999 at most),"
+        Edge e = Edge.of(27, "To SHEAR a SHEEP: the SUM of worth, 0 .. 9999 (below is 0, above 9999), is more in the"
+                + " purse (99999 at most),"
                 + " its WOOL has 0 miles, its CRIMP is 0, it is not LED.");
         String[] worth = {"0-1000*1000", "0-1", "0", "1", "9998", "9999", "9999+1", "1000*1000"};
         int[] want = {0, 0, 0, 1, 9998, 9999, 9999, 9999};
@@ -191,7 +196,8 @@ final class DayEdges {
     }
 
     private static void led() {
-        Edge e = Edge.of(28, "To LEAD a SHEEP through a GAP that leads from its FIELD: as if it STRAYED, but that it is LED then.");
+        Edge e = Edge.of(28, "To LEAD a SHEEP through a GAP that leads from its FIELD: as if it STRAYED, but that it"
+                + " is LED then.");
         StrayWool x = pair("stays all;lures 0;");
         e.is("though it stays, though nothing lures", x.lead(0, 0), true);
         e.are("sheep", new int[] {x.sheep(0, 0), x.sheep(0, 2), x.sheep(0, 3), x.sheep(0, 4), x.seen(0, 1)}, 1, 5, 1, 1, 1);
@@ -204,6 +210,7 @@ final class DayEdges {
         strayed.lead(0, 0);
         strayed.days(1);
         e.is("one that was led stays so when it strays", strayed.sheep(0, 4), 1);
+        e.is("and is kept when it strays", strayed.has(7), 2);
     }
 
     private static int draw(long[] seed, int m) {
@@ -212,8 +219,18 @@ final class DayEdges {
         return (int) (seed[0] / 64 % m);
     }
 
+    /** The least seed whose first draw of 100 is this one. */
+    static int seedThatDraws(int due) {
+        int seed = 0;
+        while (draw(new long[] {seed}, 100) != due) {
+            seed++;
+        }
+        return seed;
+    }
+
     private static void bySeed() {
-        Edge e = Edge.of(32, "BY THE SEED a DAY begins with a DRAW of 100: below storm, if there are GAPS, a DRAW of these: that one is shut,"
+        Edge e = Edge.of(32, "BY THE SEED a DAY begins with a DRAW of 100: below storm, if there are GAPS, a DRAW of"
+                + " these: that one is shut,"
                 + " if it is OPEN, else opened.");
         for (int seed : new int[] {0, 1, 2, 3, 1000, Integer.MAX_VALUE}) {
             int first = draw(new long[] {seed}, 100);
@@ -268,7 +285,8 @@ final class DayEdges {
     }
 
     private static void keptForty() {
-        Edge e = Edge.of(14, "KEPT is each that STRAYS (not what is LED): DAY, SHEEP, GAP, the miles in its WOOL then; the last 40 are told.");
+        Edge e = Edge.of(14, "KEPT is each that STRAYS (not what is LED): DAY, SHEEP, GAP, the miles in its WOOL"
+                + " then; the last 40 are told.");
         StrayWool x = pair("lures 1;");
         for (int n = 1; n <= 85; n++) {
             x.days(1);
@@ -295,7 +313,8 @@ final class DayEdges {
     }
 
     private static void acts() {
-        Edge e = Edge.of(33, "ACTS: to SHEAR; to LEAD; a GAP is opened, or shut; a SHEEP is told of a FIELD (as if it had been there so many times,"
+        Edge e = Edge.of(33, "ACTS: to SHEAR; to LEAD; a GAP is opened, or shut; a SHEEP is told of a FIELD (as if it"
+                + " had been there so many times,"
                 + " 0 .. 99); DAYS; DAYS by the seed.");
         StrayWool x = pair("lures 1;storm 100;");
         x.lead(0, 0);
@@ -355,7 +374,8 @@ final class DayEdges {
     }
 
     private static void draws() {
-        Edge e = Edge.of(34, "A DRAW of m: x (the seed) becomes (1103515245 x + 12345) mod 2 to the 31; floor(x / 64) mod m.");
+        Edge e = Edge.of(34, "A DRAW of m: x (the seed) becomes (1103515245 x + 12345) mod 2 to the 31; floor(x / 64)"
+                + " mod m.");
         int[] seeds = {0, 1, 2, 63, 64, 65535, 65536, 1 << 30, Integer.MAX_VALUE - 1, Integer.MAX_VALUE};
         for (int first : seeds) {
             long[] seed = {first};

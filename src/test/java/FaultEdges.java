@@ -34,7 +34,8 @@ final class FaultEdges {
     }
 
     private static void whole() {
-        Edge e = Edge.of(4, "1 the first byte with which no such text goes on (words and numbers whole, at their first byte");
+        Edge e = Edge.of(4, "1 the first byte with which no such text goes on (words and numbers whole, at their"
+                + " first byte");
         e.fault("fiel f lure 1;", 1, 0);
         e.fault("fieldd f lure 1;", 1, 0);
         e.fault(" field f lurex 1;", 1, 9);
@@ -125,7 +126,8 @@ final class FaultEdges {
     }
 
     private static void names() {
-        Edge e = Edge.of(4, "3 a NAME to be given that is there already, one that is none of a FIELD, a second FIELD like the first, at it");
+        Edge e = Edge.of(4, "3 a NAME to be given that is there already, one that is none of a FIELD, a second FIELD"
+                + " like the first, at it");
         String land = FIELD + "field g lure 1;sheep s at f curious 1;";
         e.fault(land + "field g", 3, 59);
         e.fault(land + "field s", 3, 59);
@@ -186,7 +188,8 @@ final class FaultEdges {
     }
 
     private static void many() {
-        Edge e = Edge.of(4, "5 one too many of a kind (a second lures, stays, worth, too), a 61st STATEMENT (whatever stands there), at its first byte.");
+        Edge e = Edge.of(4, "5 one too many of a kind (a second lures, stays, worth, too), a 61st STATEMENT (whatever"
+                + " stands there), at its first byte.");
         String fields = TextEdges.fields(8);
         e.fault(fields + "field", 5, 120);
         e.fault(fields + " \nfield z lure 1;", 5, 122);
@@ -218,7 +221,8 @@ final class FaultEdges {
     }
 
     private static void latest() {
-        Edge e = Edge.of(5, "Of the latest upland() or ask(): its FAULT (what 0; 0 without, and ahead of any), its place (1; NONE without). NONE for another what.");
+        Edge e = Edge.of(5, "Of the latest upland() or ask(): its FAULT (what 0; 0 without, and ahead of any), its"
+                + " place (1; NONE without). NONE for another what.");
         StrayWool x = new StrayWool();
         e.are("ahead of any", faults(x), -1, 0, -1, -1);
         Due.upland(x, "?");

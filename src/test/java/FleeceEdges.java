@@ -15,7 +15,8 @@ final class FleeceEdges {
     }
 
     private static void waits() {
-        Edge e = Edge.of(20, "To WAIT with a SHEEP, n DAYS AHEAD (0 .. 60): how many (what 0), what it brings then (1). NONE when there is none such, n can't be, or for others.");
+        Edge e = Edge.of(20, "To WAIT with a SHEEP, n DAYS AHEAD (0 .. 60): how many (what 0), what it brings then"
+                + " (1). NONE when there is none such, n can't be, or for others.");
         AheadEdges.limits(e, "waits", (x, n) -> x.waits(0, n, 0), 0, 60);
         StrayWool x = Due.land(AheadEdges.SHUTTLE + "worth day*2;");
         for (int n : new int[] {0, 1, 59, 60}) {
@@ -36,7 +37,8 @@ final class FleeceEdges {
     }
 
     private static void waitsChosen() {
-        Edge e = Edge.of(20, "To WAIT with a SHEEP are the DAYS AHEAD (0 .. n), behind which, SHORN then, it brings most (the SUM of worth, cut as told); of like ones the fewest.");
+        Edge e = Edge.of(20, "To WAIT with a SHEEP are the DAYS AHEAD (0 .. n), behind which, SHORN then, it brings"
+                + " most (the SUM of worth, cut as told); of like ones the fewest.");
         waited(e, "5", 60, 0, 5);
         waited(e, "60-day", 60, 0, 60);
         waited(e, "min(day,7)", 6, 6, 6);
@@ -67,7 +69,8 @@ final class FleeceEdges {
     }
 
     private static void coat() {
-        Edge e = Edge.of(21, "A COAT of n miles (1 .. 9999): SHEEP, as bits; NONE when all are not enough, or n can't be.");
+        Edge e = Edge.of(21, "A COAT of n miles (1 .. 9999): SHEEP, as bits; NONE when all are not enough, or n can't"
+                + " be.");
         StrayWool most = six(999, 999, 999, 999, 999, 999);
         int[][] rows = {{Integer.MIN_VALUE, -1}, {-1, -1}, {0, -1}, {1, 1}, {998, 1}, {999, 1}, {1000, 3}, {1998, 3}, {1999, 7}, {4995, 31},
             {4996, 63}, {5993, 63}, {5994, 63}, {5995, -1}, {9998, -1}, {9999, -1}, {10000, -1}, {Integer.MAX_VALUE, -1}};
@@ -84,7 +87,8 @@ final class FleeceEdges {
     }
 
     private static void coatChosen() {
-        Edge e = Edge.of(21, "A COAT of n miles are SHEEP whose WOOL has as many miles together, or more: the fewest of them, of like ones with the fewest miles, then the least bits.");
+        Edge e = Edge.of(21, "A COAT of n miles are SHEEP whose WOOL has as many miles together, or more: the fewest"
+                + " of them, of like ones with the fewest miles, then the least bits.");
         StrayWool x = six(10, 20, 30, 30, 5, 0);
         // Each row: up to so many miles this coat is the best.
         int[][] upTo = {{5, 16}, {10, 1}, {20, 2}, {30, 4}, {35, 20}, {40, 5}, {50, 6}, {60, 12}, {65, 28}, {70, 13}, {80, 14}, {85, 30},
@@ -115,7 +119,8 @@ final class FleeceEdges {
     }
 
     private static void watchChosen() {
-        Edge e = Edge.of(22, "A WATCH are the fewest FIELDS, so that each SHEEP is behind n DAYS in one of these, or in one from which an OPEN GAP leads to one of these; of like ones the least bits.");
+        Edge e = Edge.of(22, "A WATCH are the fewest FIELDS, so that each SHEEP is behind n DAYS in one of these, or"
+                + " in one from which an OPEN GAP leads to one of these; of like ones the least bits.");
         String land = TextEdges.fields(4) + "gap a to d miles 1;gap b to d miles 1;gap c to d miles 1;";
         StrayWool x = Due.land(land + "sheep s at a curious 0;sheep t at b curious 0;sheep u at c curious 0;stays all;");
         e.is("one of more bits, not three of less", x.watch(0), 8);
@@ -129,6 +134,15 @@ final class FleeceEdges {
         e.is("the least bits of like ones", one.watch(0), 1);
         one.swing(0, 0);
         e.is("the next", one.watch(0), 2);
+        StrayWool twice = Due.land(TextEdges.fields(2) + "gap a to b miles 1;gap b to a miles 1;sheep s at b curious 0;");
+        e.is("two gaps between two", twice.watch(0), 1);
+        twice.swing(0, 0);
+        e.is("one of them shut", twice.watch(0), 1);
+        twice.swing(1, 0);
+        e.is("both shut", twice.watch(0), 2);
+        String sheep = "sheep s at b curious 0;";
+        e.is("two from a", Due.land(TextEdges.fields(2) + "gap a to b miles 1;".repeat(2) + sheep).watch(0), 1);
+        e.is("two from b", Due.land(TextEdges.fields(2) + "gap b to a miles 1;".repeat(2) + sheep).watch(0), 1);
         StrayWool days = Due.land(AheadEdges.SHUTTLE + "field c lure 1;gap b to c miles 1;shut 0;sheep t at c curious 0;");
         // The first is shut in a, the other one goes to and fro between c and b.
         e.is("behind no day", days.watch(0), 3);

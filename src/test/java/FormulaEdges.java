@@ -34,7 +34,8 @@ final class FormulaEdges {
     }
 
     private static void tests() {
-        Edge e = Edge.of(12, "TEST: BOTH { or BOTH }. BOTH: FACT { and FACT }. FACT: not FACT; [ TEST ] ; all; SUM SIGN SUM, SIGN < or > or = .");
+        Edge e = Edge.of(12, "TEST: BOTH { or BOTH }. BOTH: FACT { and FACT }. FACT: not FACT; [ TEST ] ; all; SUM"
+                + " SIGN SUM, SIGN < or > or = .");
         String yes = "all";
         String no = "not all";
         test(e, yes, true);
@@ -93,7 +94,8 @@ final class FormulaEdges {
     }
 
     private static void digits() {
-        Edge e = Edge.of(13, "PART: N (1 to 4 digits); curious; wool; day; ( SUM ) ; min ( SUM , SUM ) ; max ( SUM , SUM ) ;");
+        Edge e = Edge.of(13, "PART: N (1 to 4 digits); curious; wool; day; ( SUM ) ; min ( SUM , SUM ) ; max ( SUM ,"
+                + " SUM ) ;");
         StrayWool x = Due.land(LAND);
         for (String n : new String[] {"0", "9", "10", "99", "100", "999", "1000", "9999", "0000", "0009"}) {
             sum(e, n, Integer.parseInt(n));
@@ -167,8 +169,10 @@ final class FormulaEdges {
     }
 
     private static void valuesInLures() {
-        Edge e = Edge.of(35, "(Of the SHEEP how curious it is, how many miles are in its WOOL, its CRIMP, 1 if it is LED, else 0; the DAY;"
-                + " what lures in the FIELD beyond the GAP, how many times it has been there, in stays in its own FIELD;"
+        Edge e = Edge.of(35, "(Of the SHEEP how curious it is, how many miles are in its WOOL, its CRIMP, 1 if it is"
+                + " LED, else 0; the DAY;"
+                + " what lures in the FIELD beyond the GAP, how many times it has been there, in stays in its own"
+                + " FIELD;"
                 + " of the GAP its miles.)");
         lures(e, "curious", 4);
         lures(e, "wool", 89);

@@ -17,8 +17,10 @@ final class ImageEdges {
     }
 
     private static void bytes() {
-        Edge e = Edge.of(36, "AN IMAGE: DAY (two bytes, the higher first), the purse (three bytes); for each GAP 1 if it is OPEN, else 0; for each SHEEP its FIELD,"
-                + " miles (two bytes), CRIMP, 1 if it is LED, else 0, how many times it has been in each FIELD; last a byte:"
+        Edge e = Edge.of(36, "AN IMAGE: DAY (two bytes, the higher first), the purse (three bytes); for each GAP 1 if"
+                + " it is OPEN, else 0; for each SHEEP its FIELD,"
+                + " miles (two bytes), CRIMP, 1 if it is LED, else 0, how many times it has been in each FIELD; last"
+                + " a byte:"
                 + " all ahead from 227 on, c = (3 c + it) mod 251.");
         StrayWool x = Due.land("field a lure 1;field b lure 1;gap a to b miles 1;gap a to b miles 1;shut 1;sheep s at a curious 9;sheep t at b curious 9;");
         int[] first = {0, 0, 0, 0, 0, 1, 0, 0, 0, 0, 0, 0, 1, 0, 1, 0, 0, 0, 0, 0, 1, 0};
@@ -55,7 +57,8 @@ final class ImageEdges {
     }
 
     private static void written() {
-        Edge e = Edge.of(36, "for each SHEEP its FIELD, miles (two bytes), CRIMP, 1 if it is LED, else 0, how many times it has been in each FIELD");
+        Edge e = Edge.of(36, "for each SHEEP its FIELD, miles (two bytes), CRIMP, 1 if it is LED, else 0, how many"
+                + " times it has been in each FIELD");
         StrayWool x = Due.land(AheadEdges.SHUTTLE + "sheep t at b curious 0;");
         for (int miles : new int[] {255, 256, 767, 768, 999}) {
             Put.allMiles(x, miles, 999 - miles);
@@ -108,7 +111,8 @@ final class ImageEdges {
     }
 
     private static void on() {
-        Edge e = Edge.of(38, "The tape (it goes) is AN IMAGE of this UPLAND: true, all is as it tells, nothing is KEPT or can be undone;");
+        Edge e = Edge.of(38, "The tape (it goes) is AN IMAGE of this UPLAND: true, all is as it tells, nothing is"
+                + " KEPT or can be undone;");
         StrayWool x = Due.land(LandEdges.full());
         byte[] first = Due.image(x);
         x.days(3);
@@ -131,7 +135,8 @@ final class ImageEdges {
     }
 
     private static void atMost() {
-        Edge e = Edge.of(38, "false, refused (5), when it is none (DAY, miles 999, the purse 99999, CRIMPS 63, times 99, flags 1 at most; FIELDS that there are), all staying.");
+        Edge e = Edge.of(38, "false, refused (5), when it is none (DAY, miles 999, the purse 99999, CRIMPS 63, times"
+                + " 99, flags 1 at most; FIELDS that there are), all staying.");
         // From where, how many bytes, the most: day, purse, the first and the last gap, a sheep's own bytes.
         int sheep = 5 + 10 + 5 * 13;
         int[][] rows = {{0, 2, 999}, {2, 3, 99999}, {5, 1, 1}, {14, 1, 1}, {15, 1, 7}, {sheep, 1, 7}, {sheep + 1, 2, 999}, {sheep + 3, 1, 63},

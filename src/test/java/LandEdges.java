@@ -43,7 +43,8 @@ final class LandEdges {
     }
 
     private static void has() {
-        Edge e = Edge.of(6, "How many there are: 0 FIELDS, 1 GAPS, 2 SHEEP, 3 DAY, 4 OPEN GAPS, 5 the purse, 6 miles in all WOOL,"
+        Edge e = Edge.of(6, "How many there are: 0 FIELDS, 1 GAPS, 2 SHEEP, 3 DAY, 4 OPEN GAPS, 5 the purse, 6 miles"
+                + " in all WOOL,"
                 + " 7 what is told as KEPT, 8 rows FELT, 9 ACTS that can be undone. NONE for others.");
         StrayWool x = Due.land(full() + "shut 9;shut 0;");
         e.are("at first", all(x), 8, 10, 6, 0, 8, 0, 0, 0, 0, 0);
@@ -61,7 +62,8 @@ final class LandEdges {
     }
 
     private static void hasAtItsMost() {
-        Edge e = Edge.of(6, "3 DAY, 4 OPEN GAPS, 5 the purse, 6 miles in all WOOL, 7 what is told as KEPT, 8 rows FELT, 9 ACTS that can be undone");
+        Edge e = Edge.of(6, "3 DAY, 4 OPEN GAPS, 5 the purse, 6 miles in all WOOL, 7 what is told as KEPT, 8 rows"
+                + " FELT, 9 ACTS that can be undone");
         StrayWool x = Due.land(full() + "lures 1;");
         Put.purse(x, 99999);
         Put.allMiles(x, 999, 999, 999, 999, 999, 999);
@@ -73,7 +75,8 @@ final class LandEdges {
     }
 
     private static void letter() {
-        Edge e = Edge.of(7, "Letter k (0 .. 5) of the NAME of a FIELD (kind 0), a SHEEP (1): 1 .. 26; 0 behind it; NONE when there is none such.");
+        Edge e = Edge.of(7, "Letter k (0 .. 5) of the NAME of a FIELD (kind 0), a SHEEP (1): 1 .. 26; 0 behind it;"
+                + " NONE when there is none such.");
         StrayWool x = Due.land(full());
         int[] fh = {6, 8, 0, 0, 0, 0};
         int[] sheepf = {19, 8, 5, 5, 16, 6};
@@ -118,7 +121,8 @@ final class LandEdges {
     }
 
     private static void gap() {
-        Edge e = Edge.of(9, "Of a GAP: 0 the first FIELD told, 1 the other one, 2 miles, 3 whether OPEN. NONE when there is none such, or for others.");
+        Edge e = Edge.of(9, "Of a GAP: 0 the first FIELD told, 1 the other one, 2 miles, 3 whether OPEN. NONE when"
+                + " there is none such, or for others.");
         StrayWool x = Due.land(full() + "shut 9;");
         for (int k = 0; k < 10; k++) {
             int[] got = {x.gap(k, -1), x.gap(k, 0), x.gap(k, 1), x.gap(k, 2), x.gap(k, 3), x.gap(k, 4)};
@@ -137,7 +141,8 @@ final class LandEdges {
     }
 
     private static void sheep() {
-        Edge e = Edge.of(10, "Of a SHEEP: 0 its FIELD, 1 how curious, 2 miles in its WOOL, 3 CRIMP, 4 whether LED, 5 its HOME. NONE when there is none such, or for others.");
+        Edge e = Edge.of(10, "Of a SHEEP: 0 its FIELD, 1 how curious, 2 miles in its WOOL, 3 CRIMP, 4 whether LED, 5"
+                + " its HOME. NONE when there is none such, or for others.");
         StrayWool x = Due.land(full());
         x.lead(5, 5);
         x.lead(0, 7);
@@ -175,7 +180,8 @@ final class LandEdges {
     }
 
     private static void strays() {
-        Edge e = Edge.of(12, "The GAP through which a SHEEP would STRAY in the next DAY; NONE when it would not, or there is none such.");
+        Edge e = Edge.of(12, "The GAP through which a SHEEP would STRAY in the next DAY; NONE when it would not, or"
+                + " there is none such.");
         StrayWool x = Due.land(full());
         int[] want = {0, 1, 2, 3, 4, 5};
         for (int s = 0; s < 6; s++) {
@@ -219,7 +225,8 @@ final class LandEdges {
     }
 
     private static void kept() {
-        Edge e = Edge.of(14, "Of what is told as KEPT, the k-th from the oldest on: 0 DAY, 1 SHEEP, 2 GAP, 3 miles. NONE when there is none such, or for others.");
+        Edge e = Edge.of(14, "Of what is told as KEPT, the k-th from the oldest on: 0 DAY, 1 SHEEP, 2 GAP, 3 miles."
+                + " NONE when there is none such, or for others.");
         StrayWool x = Due.land(full());
         e.is("none yet", x.kept(0, 0), -1);
         Put.day(x, 998);

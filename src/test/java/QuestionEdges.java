@@ -25,8 +25,10 @@ final class QuestionEdges {
     }
 
     private static void words() {
-        Edge e = Edge.of(35, "A QUESTION is a text, of all SHEEP: first TEST, last TEST (the first, the last SHEEP for which it holds), often TEST (for how many),"
-                + " total SUM (of all together), most SUM, least SUM (the greatest, the least of all; 0 without SHEEP).");
+        Edge e = Edge.of(35, "A QUESTION is a text, of all SHEEP: first TEST, last TEST (the first, the last SHEEP"
+                + " for which it holds), often TEST (for how many),"
+                + " total SUM (of all together), most SUM, least SUM (the greatest, the least of all; 0 without"
+                + " SHEEP).");
         StrayWool x = six();
         e.asks(x, "first all", 0);
         e.asks(x, "last all", 5);
@@ -82,7 +84,8 @@ final class QuestionEdges {
     }
 
     private static void parts() {
-        Edge e = Edge.of(35, "TEST, SUM as in I, but PART: N; number; at; curious; wool; crimp; led; day; seen PART; lures PART; ( SUM ) ;"
+        Edge e = Edge.of(35, "TEST, SUM as in I, but PART: N; number; at; curious; wool; crimp; led; day; seen PART;"
+                + " lures PART; ( SUM ) ;"
                 + " min ( SUM , SUM ) ; max ( SUM , SUM ) .");
         StrayWool x = six();
         x.lead(5, 5);
@@ -111,7 +114,8 @@ final class QuestionEdges {
     }
 
     private static void seenPart() {
-        Edge e = Edge.of(35, "(The SHEEP's number, that of its FIELD; how many times it has been in the FIELD of that number, 0 of one that there is not;");
+        Edge e = Edge.of(35, "(The SHEEP's number, that of its FIELD; how many times it has been in the FIELD of that"
+                + " number, 0 of one that there is not;");
         StrayWool x = six();
         x.tell(5, 0, 31);
         x.tell(5, 7, 47);
@@ -132,7 +136,8 @@ final class QuestionEdges {
     }
 
     private static void luresPart() {
-        Edge e = Edge.of(35, "the SUM of lures for it now by the GAP of that number, 0 of one that does not lead from its FIELD, or that there is not.)");
+        Edge e = Edge.of(35, "the SUM of lures for it now by the GAP of that number, 0 of one that does not lead from"
+                + " its FIELD, or that there is not.)");
         StrayWool x = Due.land(LandEdges.full() + "lures miles*10+curious-seen;");
         // Gap 0 is at fa of sheep 0 alone, gap 9 at fc of sheep 2.
         e.asks(x, "total lures 0", 14);
@@ -219,7 +224,8 @@ final class QuestionEdges {
     }
 
     private static void deep() {
-        Edge e = Edge.of(35, "4 the 7th of ( [ not seen lures that is open at once (not until its FACT, seen, lures until its PART ends), at it.");
+        Edge e = Edge.of(35, "4 the 7th of ( [ not seen lures that is open at once (not until its FACT, seen, lures"
+                + " until its PART ends), at it.");
         StrayWool x = six();
         for (int n = 5; n <= 7; n++) {
             deepOf(e, x, "total ", "(", "1", ")", n);
@@ -269,7 +275,8 @@ final class QuestionEdges {
     }
 
     private static void answered() {
-        Edge e = Edge.of(35, "The tape (it goes) is a QUESTION: its answer; NONE of first, last, when its TEST holds for none; NOTHING with a FAULT.");
+        Edge e = Edge.of(35, "The tape (it goes) is a QUESTION: its answer; NONE of first, last, when its TEST holds"
+                + " for none; NOTHING with a FAULT.");
         StrayWool x = six();
         Due.tape(x, Due.bytes("total number"));
         e.is("answered", x.ask(), 15);

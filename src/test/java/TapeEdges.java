@@ -10,6 +10,7 @@ final class TapeEdges {
         lastCall();
         order();
         full();
+        longest();
         ended();
         refused();
         notRefused();
@@ -34,7 +35,8 @@ final class TapeEdges {
     }
 
     private static void lastCall() {
-        Edge e = Edge.of(1, "An object is used for at most 512 calls after it has been made; what later calls answer is free.");
+        Edge e = Edge.of(1, "An object is used for at most 512 calls after it has been made; what later calls answer"
+                + " is free.");
         StrayWool x = Due.land("field a lure 1;field b lure 1;gap a to b miles 1;sheep s at a curious 0;lures 1;");
         // The tape took six calls, upland() one.
         for (int call = 8; call <= 510; call++) {
@@ -91,8 +93,26 @@ final class TapeEdges {
         e.is("blanks alone are still there", x.upland(), 0);
     }
 
+    /** Each text uses what the one ahead of it used, so they come several times. */
+    private static void longest() {
+        Edge e = Edge.of(2, "if there would be more than 1600");
+        String land = "field a lure 1;sheep s at a curious 0;";
+        String text = land + "worth 1" + "+1".repeat(776) + " ;";
+        StrayWool uplands = new StrayWool();
+        StrayWool questions = Due.land(land);
+        for (int n = 0; n < 4; n++) {
+            e.is("an upland of " + text.length(), Due.upland(uplands, text), 3);
+            e.is("all of it is reckoned", uplands.brings(0), 777);
+            String question = "total" + " ".repeat(1 + n % 2) + "1" + "+1".repeat(796);
+            e.is("a question of " + question.length(), Due.ask(questions, question), 797);
+        }
+        e.is("the longest upland", text.length(), 1599);
+        e.is("one with a blank more", Due.upland(uplands, text + "\n"), 3);
+    }
+
     private static void ended() {
-        Edge e = Edge.of(3, "The tape has its first n bytes alone: true; false, refused (0), if it has not so many, or n is below 0.");
+        Edge e = Edge.of(3, "The tape has its first n bytes alone: true; false, refused (0), if it has not so many,"
+                + " or n is below 0.");
         for (int length : new int[] {0, 20, 1600}) {
             for (int n : new int[] {Integer.MIN_VALUE, -1, 0, 1, 19, 20, 21, 1599, 1600, 1601, Integer.MAX_VALUE}) {
                 StrayWool x = new StrayWool();
@@ -111,10 +131,22 @@ final class TapeEdges {
         Due.tape(x, Due.bytes("storm 1;storm 2;storm 3;"));
         x.end(16);
         e.is("the first two alone", x.upland(), 2);
+        // What went is not read, though a word or a number would go on with it.
+        StrayWool sheep = Due.land("field a lure 1;sheep s at a curious 4;");
+        Due.tape(sheep, Due.bytes("total 123"));
+        sheep.end(7);
+        e.is("1 of 123", sheep.ask(), 1);
+        Due.tape(sheep, Due.bytes("total curiously"));
+        sheep.end(13);
+        e.is("curious of curiously", sheep.ask(), 4);
+        Due.tape(sheep, Due.bytes("total curious"));
+        sheep.end(12);
+        e.is("curiou", sheep.ask(), StrayWool.NOTHING);
     }
 
     private static void refuses(int group, String call, Consumer<StrayWool> one) {
-        Edge e = Edge.of(39, "How many were refused: 0 feed(), end(); 1 upland(), feel(); 2 shear(), lead(), swing(), tell();"
+        Edge e = Edge.of(39, "How many were refused: 0 feed(), end(); 1 upland(), feel(); 2 shear(), lead(), swing(),"
+                + " tell();"
                 + " 3 days(), chance(); 4 undo(); 5 seed(), on().");
         StrayWool x = Due.land(Lands.HILLS);
         for (int n = 1; n <= 3; n++) {

@@ -1,3 +1,5 @@
+import java.util.Arrays;
+
 /** Edges of promise 4 and of part I of the terms: what statements tell. */
 final class TextEdges {
     private static final String TWO = "field f lure 1;field g lure 1;";
@@ -23,6 +25,7 @@ final class TextEdges {
         uplandGoes();
         allStays();
         allAsAtFirst();
+        behindOthers();
     }
 
     /** Fields a, b, c .. */
@@ -164,10 +167,19 @@ final class TextEdges {
         e.is("the last one, 0", storms(e, "storm 100;storm 0;", 2), 0);
         e.is("the last one, 100", storms(e, "storm 0;storm 50;storm 100;", 3), 100);
         e.is("without", storms(e, "", 0), 0);
+        String[] told = {"", "storm 0;", "storm 1;", "storm 99;", "storm 100;"};
+        for (int i = 0; i < told.length; i++) {
+            StrayWool x = e.good(TWO + GAP + told[i], i == 0 ? 3 : 4);
+            x.seed(DayEdges.seedThatDraws(0));
+            e.is("0 is drawn, " + told[i], x.chance(1), i < 2 ? 0 : 1);
+            x.seed(DayEdges.seedThatDraws(99));
+            e.is("99 is drawn, " + told[i], x.chance(1), i < 4 ? 0 : 1);
+        }
     }
 
     private static void letters() {
-        Edge e = Edge.of(4, "NAMES: 1 to 6 letters, no OWN WORD, unlike ones (of both sorts), told ahead of where they are asked.");
+        Edge e = Edge.of(4, "NAMES: 1 to 6 letters, no OWN WORD, unlike ones (of both sorts), told ahead of where"
+                + " they are asked.");
         e.fault("field  lure 1;", 1, 7);
         e.fault("field ; lure 1;", 1, 6);
         String name = "zyxwvu";
@@ -262,7 +274,8 @@ final class TextEdges {
     }
 
     private static void uplandGoes() {
-        Edge e = Edge.of(4, "The tape (it goes) is THE UPLAND: how many STATEMENTS (0 without); NONE, refused (1), with a FAULT (all stays).");
+        Edge e = Edge.of(4, "The tape (it goes) is THE UPLAND: how many STATEMENTS (0 without); NONE, refused (1),"
+                + " with a FAULT (all stays).");
         StrayWool x = new StrayWool();
         e.is("without", x.upland(), 0);
         e.is("one", Due.upland(x, "storm 1;"), 1);
@@ -306,7 +319,7 @@ final class TextEdges {
             int[] want = all(x);
             e.is("a fault", Due.upland(x, text), -1);
             e.are("all", all(x), want);
-            e.is("image", java.util.Arrays.equals(image, Due.image(x)), true);
+            e.is("image", Arrays.equals(image, Due.image(x)), true);
             e.is("the name of a sheep", x.letter(1, 0, 0), 5);
             e.is("what it was felt for", x.curious(0), used().curious(0));
             e.is("kept", x.kept(0, 3), 4);
@@ -333,5 +346,26 @@ final class TextEdges {
         e.is("92 is not below 92", x.chance(1), 0);
         e.is("nothing at all", Due.upland(x, ""), 0);
         e.are("all", all(x), 0, 0, 0, 0, 0, 0, 0, 0, 0, 0, -1, -1);
+    }
+
+    /** What uplands ahead of it told, and what was done in them, is not seen in an upland that does not tell it. */
+    private static void behindOthers() {
+        Edge e = Edge.of(4, "Without one all is as at first");
+        String rich = Lands.HILLS + "shut 1;storm 100;lures miles+curious*2;stays wool>9;worth wool*9+crimp;";
+        String bare = Lands.HILLS;
+        StrayWool x = new StrayWool();
+        for (String text : new String[] {rich, rich, bare, bare, rich, bare}) {
+            Due.upland(x, text);
+            StrayWool fresh = Due.land(text);
+            e.is("image", Arrays.equals(Due.image(x), Due.image(fresh)), true);
+            e.is("lures", Due.ask(x, "total lures 0+lures 2"), Due.ask(fresh, "total lures 0+lures 2"));
+            e.is("curious", x.curious(0), 1023);
+            e.is("days", x.days(3), fresh.days(3));
+            e.is("brings", x.brings(0), fresh.brings(0));
+            e.is("storms", x.chance(2), text.equals(rich) ? 2 : 0);
+            x.lead(1, x.sheep(1, 0) == 1 ? 0 : 2);
+            x.tell(0, 2, 77);
+            Due.feel(x, 0, 0, 63, 0, 0, 63);
+        }
     }
 }
