@@ -345,6 +345,11 @@ final class AheadEdges {
         e.is("two gaps, 31 by 6 and 9, 7 and 6, 8 and 3, 9 and 0", ten.ways(0, 2, 31), 4);
         e.is("two gaps, 40 by 9 and 9", ten.ways(0, 2, 40), 1);
         e.is("two gaps, 41 by none", ten.ways(0, 2, 41), 0);
+        StrayWool eight = Due.land(TextEdges.fields(8) + "gap h to g miles 1;gap a to h miles 1;");
+        e.is("from the last field", eight.ways(7, 1, 1), 1);
+        e.is("to the last field", eight.ways(0, 1, 2), 1);
+        e.is("by the last field", eight.ways(0, 2, 7), 1);
+        e.is("at the last field", eight.ways(7, 0, 0), 1);
         StrayWool row = Due.land("field a lure 1;field b lure 1;field c lure 1;gap a to b miles 1;gap b to c miles 1;");
         e.is("on to c", row.ways(0, 2, 5), 1);
         e.is("back to a", row.ways(0, 2, 4), 1);

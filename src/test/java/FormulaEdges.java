@@ -55,6 +55,12 @@ final class FormulaEdges {
         test(e, "not all and [all or all]", false);
         test(e, "not all or all", true);
         test(e, "not [all or all]", false);
+        test(e, "all and [all]", true);
+        test(e, "all and [all or not all]", true);
+        test(e, "all and [not all or not all]", false);
+        test(e, "not all or [all]", true);
+        test(e, "all and [all and [all or all]]", true);
+        test(e, "1+1=2 and [2=1+1]", true);
         test(e, "not 1=2 and 1=1", true);
         test(e, "not [1=2 and 1=1]", true);
         test(e, "not 1=1 and 1=2", false);

@@ -106,6 +106,14 @@ final class TapeEdges {
             String question = "total" + " ".repeat(1 + n % 2) + "1" + "+1".repeat(796);
             e.is("a question of " + question.length(), Due.ask(questions, question), 797);
         }
+        String blank = " ".repeat(1591);
+        e.is("a word to the last byte", Due.ask(questions, "total" + blank + " day"), 0);
+        e.is("a number to the last byte", Due.ask(questions, "total" + blank + "1234"), 1234);
+        StrayWool cut = new StrayWool();
+        e.is("a word that the tape's end cuts", Due.ask(cut, "total" + blank + "  da"), StrayWool.NOTHING);
+        e.is("its place", cut.fault(1), 1598);
+        e.is("a number that the tape's end cuts", Due.upland(cut, "storm" + blank + " 100"), -1);
+        e.is("its place", cut.fault(1), 1600);
         e.is("the longest upland", text.length(), 1599);
         e.is("one with a blank more", Due.upland(uplands, text + "\n"), 3);
     }
