@@ -1088,6 +1088,9 @@ public final class StrayWool {
             int bits = changed;
             for (int k = 0; k < MAX_GAPS && rest != 0; k++) {
                 int gap = hill.mostLuring(rest, pulls, row);
+                if (gap == NONE) {
+                    return;
+                }
                 int bit = 1 << gap;
                 tryThrough(s, field, left, gap, known | bit, bits | bit & ~now.open);
                 if ((known & bit) != 0) {
